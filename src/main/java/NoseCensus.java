@@ -159,7 +159,7 @@ public final class NoseCensus {
             case 2:
                 return now.force[person];
             case 3:
-                return now.clean[person] ? 1 : 0;
+                return now.isClean(person) ? 1 : 0;
             case 4:
                 nose.sniff(now);
                 return nose.scent[person];
@@ -252,11 +252,11 @@ public final class NoseCensus {
     }
 
     public boolean wash(int person, boolean is) {
-        if (!isPerson(person) || now.clean[person] == is) {
+        if (!isPerson(person) || now.isClean(person) == is) {
             return false;
         }
-        past.push(Past.WASHED, person, now.clean[person] ? 1 : 0);
-        now.clean[person] = is;
+        past.push(Past.WASHED, person, is ? 0 : 1);
+        now.setClean(person, is);
         return true;
     }
 
@@ -524,7 +524,7 @@ public final class NoseCensus {
             case 9:
                 return now.paidInAll();
             case 10:
-                return now.cleanPeople();
+                return Integer.bitCount(now.clean);
             case 11:
                 return notes.size;
             case 12:
@@ -570,7 +570,8 @@ public final class NoseCensus {
         final int[] home = new int[MOST_PEOPLE];
         final int[] kind = new int[MOST_PEOPLE];
         final int[] force = new int[MOST_PEOPLE];
-        final boolean[] clean = new boolean[MOST_PEOPLE];
+        /** Who is WASHED, a bit each. */
+        int clean;
         int coats;
         final int[] coatHouse = new int[MOST_COATS];
         final int[] coatKind = new int[MOST_COATS];
@@ -589,13 +590,13 @@ public final class NoseCensus {
             dogs = other.dogs;
             wind = other.wind;
             tax = other.tax;
+            clean = other.clean;
             year = other.year;
             System.arraycopy(other.dish, 0, dish, 0, MOST_HOUSES);
             System.arraycopy(other.paid, 0, paid, 0, MOST_HOUSES);
             System.arraycopy(other.home, 0, home, 0, MOST_PEOPLE);
             System.arraycopy(other.kind, 0, kind, 0, MOST_PEOPLE);
             System.arraycopy(other.force, 0, force, 0, MOST_PEOPLE);
-            System.arraycopy(other.clean, 0, clean, 0, MOST_PEOPLE);
             System.arraycopy(other.coatHouse, 0, coatHouse, 0, MOST_COATS);
             System.arraycopy(other.coatKind, 0, coatKind, 0, MOST_COATS);
             System.arraycopy(other.coatForce, 0, coatForce, 0, MOST_COATS);
@@ -662,14 +663,12 @@ public final class NoseCensus {
             return left;
         }
 
-        int cleanPeople() {
-            int heads = 0;
-            for (int person = 0; person < people; person++) {
-                if (clean[person]) {
-                    heads++;
-                }
-            }
-            return heads;
+        boolean isClean(int person) {
+            return (clean >> person & 1) == 1;
+        }
+
+        void setClean(int person, boolean is) {
+            clean = is ? clean | 1 << person : clean & ~(1 << person);
         }
 
         int paidInAll() {
@@ -682,23 +681,13 @@ public final class NoseCensus {
 
         /** What a YEAR brings behind its evening. */
         void passYear() {
-            fadeCoats();
-            dirtyAll();
-            year++;
-        }
-
-        private void fadeCoats() {
             for (int coat = 0; coat < coats; coat++) {
                 if (coatForce[coat] > 0) {
                     coatForce[coat]--;
                 }
             }
-        }
-
-        void dirtyAll() {
-            for (int person = 0; person < people; person++) {
-                clean[person] = false;
-            }
+            clean = 0;
+            year++;
         }
     }
 
@@ -736,9 +725,8 @@ public final class NoseCensus {
         final Names people = new Names(MOST_PEOPLE);
         final Names dogs = new Names(MOST_DOGS);
         final boolean[] dishTold = new boolean[MOST_HOUSES];
-        boolean windTold;
-        boolean taxTold;
-        boolean seedTold;
+        /** Of wind, tax and seed. */
+        final boolean[] numberTold = new boolean[SEED - WIND + 1];
 
         void empty() {
             start.empty();
@@ -746,9 +734,9 @@ public final class NoseCensus {
             houses.size = 0;
             people.size = 0;
             dogs.size = 0;
-            windTold = false;
-            taxTold = false;
-            seedTold = false;
+            for (int i = 0; i < numberTold.length; i++) {
+                numberTold[i] = false;
+            }
             for (int house = 0; house < MOST_HOUSES; house++) {
                 dishTold[house] = false;
             }
@@ -824,51 +812,43 @@ public final class NoseCensus {
         private static long joined(int sign, long a, long b) {
             switch (sign) {
                 case PLUS:
-                    return bounded(a + b);
+                    return a + b > MOST || a + b < -MOST ? ERROR : a + b;
                 case MINUS:
-                    return bounded(a - b);
+                    return a - b > MOST || a - b < -MOST ? ERROR : a - b;
                 case TIMES:
                     // The product of two values may be beyond a long, so it is bounded ahead.
                     return a != 0 && (b < 0 ? -b : b) > MOST / (a < 0 ? -a : a) ? ERROR : a * b;
                 case BY:
                     return b == 0 ? ERROR : a / b;
-                default:
-                    return holds(sign, a, b) ? 1 : 0;
-            }
-        }
-
-        private static long bounded(long value) {
-            return value > MOST || value < -MOST ? ERROR : value;
-        }
-
-        private static boolean holds(int sign, long a, long b) {
-            switch (sign) {
                 case LESS:
-                    return a < b;
+                    return a < b ? 1 : 0;
                 case AT_MOST:
-                    return a <= b;
+                    return a <= b ? 1 : 0;
                 case EQUAL:
-                    return a == b;
+                    return a == b ? 1 : 0;
                 case UNLIKE:
-                    return a != b;
+                    return a != b ? 1 : 0;
                 case AT_LEAST:
-                    return a >= b;
+                    return a >= b ? 1 : 0;
                 case MORE:
-                    return a > b;
+                    return a > b ? 1 : 0;
                 case AND:
-                    return a != 0 && b != 0;
+                    return a != 0 && b != 0 ? 1 : 0;
+                case OR:
+                    return a != 0 || b != 0 ? 1 : 0;
                 default:
-                    return a != 0 || b != 0;
+                    return ERROR;
             }
         }
     }
 
     /** The TAPE's bytes as tokens, one at a time. */
     private static final class Tokens {
-        private static final String LANGUAGE = "force kind heads dish air place year smell nose due or and not "
-                + "house person coat dog wind tax seed law ";
+        private static final String LANGUAGE =
+                "force kind heads dish air place year smell nose due or and not house person coat dog wind tax seed law ";
         private static final int WORDS = LAW - FORCE + 1;
         private static final int LETTERS = 6;
+        private static final int BITS = 5;
         // Above every number that a TEXT may hold, and far below what an int holds.
         private static final int TOO_GREAT = 1000000;
 
@@ -888,23 +868,14 @@ public final class NoseCensus {
             for (int i = 0; i < LANGUAGE.length() && word < WORDS; i++) {
                 char sign = LANGUAGE.charAt(i);
                 if (sign == ' ') {
-                    words[word] = filledUp(words[word], letters);
+                    words[word] <<= BITS * (LETTERS - letters);
                     word++;
                     letters = 0;
                 } else {
-                    words[word] = words[word] * 32 + sign - 'a' + 1;
+                    words[word] = (words[word] << BITS) + sign - 'a' + 1;
                     letters++;
                 }
             }
-        }
-
-        /** Sets a name's letters highest, as named() is asked for it. */
-        private static int filledUp(int letterBits, int letters) {
-            int bits = letterBits;
-            for (int i = letters; i < LETTERS; i++) {
-                bits *= 32;
-            }
-            return bits;
         }
 
         void start(int n) {
@@ -920,9 +891,9 @@ public final class NoseCensus {
             place = at;
             if (at >= length) {
                 token = END;
-            } else if (isLetter(bytes[at])) {
+            } else if (bytes[at] >= 'a' && bytes[at] <= 'z') {
                 nextWord();
-            } else if (isDigit(bytes[at])) {
+            } else if (bytes[at] >= '0' && bytes[at] <= '9') {
                 nextNumber();
             } else {
                 token = signOf(bytes[at]);
@@ -931,19 +902,11 @@ public final class NoseCensus {
             }
         }
 
-        private static boolean isLetter(int sign) {
-            return sign >= 'a' && sign <= 'z';
-        }
-
-        private static boolean isDigit(int sign) {
-            return sign >= '0' && sign <= '9';
-        }
-
         private void nextWord() {
             int bits = 0;
             int letters = 0;
-            while (at < length && isLetter(bytes[at])) {
-                bits = bits * 32 + bytes[at] - 'a' + 1;
+            while (at < length && bytes[at] >= 'a' && bytes[at] <= 'z') {
+                bits = (bits << BITS) + bytes[at] - 'a' + 1;
                 letters++;
                 at++;
             }
@@ -951,7 +914,7 @@ public final class NoseCensus {
                 token = BAD;
                 return;
             }
-            code = filledUp(bits, letters);
+            code = bits << BITS * (LETTERS - letters);
             token = NAME;
             for (int i = 0; i < WORDS; i++) {
                 if (words[i] == code) {
@@ -963,7 +926,7 @@ public final class NoseCensus {
         private void nextNumber() {
             token = NUMBER;
             number = 0;
-            while (at < length && isDigit(bytes[at])) {
+            while (at < length && bytes[at] >= '0' && bytes[at] <= '9') {
                 number = Math.min(number * 10 + bytes[at] - '0', TOO_GREAT);
                 at++;
             }
@@ -1017,6 +980,8 @@ public final class NoseCensus {
         private static final int TOO_MUCH = 2;
         private static final int TOLD = 3;
         private static final int UNTOLD = 4;
+        /** Of wind, tax and seed. */
+        private static final int[] MOST_NUMBERS = {MOST_WIND, 99, 99999};
 
         int lines;
         int fault;
@@ -1024,6 +989,10 @@ public final class NoseCensus {
         private final Tokens tokens;
         private Plan plan;
         private int knotsMet;
+        /** What was taken last of each. */
+        private int house;
+        private int kind;
+        private int number;
 
         Reader(int[] tape) {
             tokens = new Tokens(tape);
@@ -1073,11 +1042,9 @@ public final class NoseCensus {
                 case DOG:
                     return dogLine();
                 case WIND:
-                    return windLine();
                 case TAX:
-                    return taxLine();
                 case SEED:
-                    return seedLine();
+                    return numberLine();
                 case LAW:
                     return lawLine();
                 default:
@@ -1086,11 +1053,7 @@ public final class NoseCensus {
         }
 
         private boolean houseLine() {
-            if (plan.houses.size >= MOST_HOUSES) {
-                return fail(TOO_MUCH);
-            }
-            tokens.next();
-            if (!newName(plan.houses)) {
+            if (!begin(plan.start.houses, MOST_HOUSES) || !takeNewName(plan.houses)) {
                 return false;
             }
             plan.start.houses++;
@@ -1098,130 +1061,78 @@ public final class NoseCensus {
         }
 
         private boolean personLine() {
-            if (plan.people.size >= MOST_PEOPLE) {
-                return fail(TOO_MUCH);
-            }
-            tokens.next();
-            if (!newName(plan.people) || !toldHouse()) {
+            if (!begin(plan.start.people, MOST_PEOPLE) || !takeNewName(plan.people) || !takeSmell()) {
                 return false;
             }
-            int house = plan.houses.find(tokens.code);
-            tokens.next();
-            if (!isNumber(0, KINDS - 1)) {
-                return false;
-            }
-            int kind = tokens.number;
-            tokens.next();
-            if (!isNumber(1, MOST_FORCE)) {
-                return false;
-            }
-            plan.start.addPerson(house, kind, tokens.number);
-            tokens.next();
+            plan.start.addPerson(house, kind, number);
             return true;
         }
 
         private boolean coatLine() {
-            if (plan.start.coats >= MOST_COATS_TOLD) {
-                return fail(TOO_MUCH);
-            }
-            tokens.next();
-            if (!toldHouse()) {
+            if (!begin(plan.start.coats, MOST_COATS_TOLD) || !takeSmell()) {
                 return false;
             }
-            int house = plan.houses.find(tokens.code);
-            tokens.next();
-            if (!isNumber(0, KINDS - 1)) {
-                return false;
-            }
-            int kind = tokens.number;
-            tokens.next();
-            if (!isNumber(1, MOST_FORCE)) {
-                return false;
-            }
-            plan.start.addCoat(house, kind, tokens.number);
-            tokens.next();
+            plan.start.addCoat(house, kind, number);
             return true;
         }
 
         private boolean dishLine() {
             tokens.next();
-            if (!toldHouse()) {
+            if (!isHouseTold()) {
                 return false;
             }
-            int house = plan.houses.find(tokens.code);
-            if (house == NONE || plan.dishTold[house]) {
+            if (plan.dishTold[house]) {
                 return fail(TOLD);
             }
+            plan.dishTold[house] = true;
             tokens.next();
-            if (!isNumber(0, 9)) {
+            if (!takeNumber(0, 9)) {
                 return false;
             }
-            plan.dishTold[house] = true;
-            plan.start.dish[house] = tokens.number;
-            tokens.next();
+            plan.start.dish[house] = number;
             return true;
         }
 
         private boolean dogLine() {
-            if (plan.dogs.size >= MOST_DOGS) {
+            if (!begin(plan.start.dogs, MOST_DOGS) || !takeNewName(plan.dogs) || !isHouseTold()) {
+                return false;
+            }
+            tokens.next();
+            if (!takeNumber(1, MOST_FORCE)) {
+                return false;
+            }
+            plan.start.addDog(house, number);
+            return true;
+        }
+
+        private boolean numberLine() {
+            int which = tokens.token - WIND;
+            if (plan.numberTold[which]) {
+                return fail(TOLD);
+            }
+            plan.numberTold[which] = true;
+            tokens.next();
+            if (!takeNumber(0, MOST_NUMBERS[which])) {
+                return false;
+            }
+            if (which == 0) {
+                plan.start.wind = number;
+            } else if (which == 1) {
+                plan.start.tax = number;
+            }
+            return true;
+        }
+
+        /** Takes the word of a LINE that tells one more of what there are some already. */
+        private boolean begin(int some, int most) {
+            if (some >= most) {
                 return fail(TOO_MUCH);
             }
             tokens.next();
-            if (!newName(plan.dogs) || !toldHouse()) {
-                return false;
-            }
-            int house = plan.houses.find(tokens.code);
-            tokens.next();
-            if (!isNumber(1, 9)) {
-                return false;
-            }
-            plan.start.addDog(house, tokens.number);
-            tokens.next();
             return true;
         }
 
-        private boolean windLine() {
-            if (plan.windTold) {
-                return fail(TOLD);
-            }
-            plan.windTold = true;
-            tokens.next();
-            if (!isNumber(0, MOST_WIND)) {
-                return false;
-            }
-            plan.start.wind = tokens.number;
-            tokens.next();
-            return true;
-        }
-
-        private boolean taxLine() {
-            if (plan.taxTold) {
-                return fail(TOLD);
-            }
-            plan.taxTold = true;
-            tokens.next();
-            if (!isNumber(0, 99)) {
-                return false;
-            }
-            plan.start.tax = tokens.number;
-            tokens.next();
-            return true;
-        }
-
-        private boolean seedLine() {
-            if (plan.seedTold) {
-                return fail(TOLD);
-            }
-            plan.seedTold = true;
-            tokens.next();
-            if (!isNumber(0, 99999)) {
-                return false;
-            }
-            tokens.next();
-            return true;
-        }
-
-        private boolean newName(Names names) {
+        private boolean takeNewName(Names names) {
             if (tokens.token != NAME) {
                 return fail(MISPLACED);
             }
@@ -1233,11 +1144,39 @@ public final class NoseCensus {
             return true;
         }
 
-        private boolean toldHouse() {
+        /** A HOUSE, a KIND and a FORCE, as people and coats have them. */
+        private boolean takeSmell() {
+            if (!isHouseTold()) {
+                return false;
+            }
+            tokens.next();
+            if (!takeNumber(0, KINDS - 1)) {
+                return false;
+            }
+            kind = number;
+            return takeNumber(1, MOST_FORCE);
+        }
+
+        /** Leaves the token, for a FAULT of the LINE may still be at it. */
+        private boolean isHouseTold() {
             if (tokens.token != NAME) {
                 return fail(MISPLACED);
             }
-            return plan.houses.find(tokens.code) != NONE || fail(UNTOLD);
+            int told = plan.houses.find(tokens.code);
+            if (told == NONE) {
+                return fail(UNTOLD);
+            }
+            house = told;
+            return true;
+        }
+
+        private boolean takeNumber(int least, int most) {
+            if (!isNumber(least, most)) {
+                return false;
+            }
+            number = tokens.number;
+            tokens.next();
+            return true;
         }
 
         private boolean isNumber(int least, int most) {
@@ -1385,7 +1324,7 @@ public final class NoseCensus {
     /** What there is to smell in a town, and what dogs make of it. All but sniff() speak of the town sniffed last. */
     private static final class Nose {
         Laws laws;
-        private Town town;
+        Town town;
         /** The SMELL of each PERSON where that one is, as if unWASHED. */
         final int[] scent = new int[MOST_PEOPLE];
         /** The AIR, KINDS of them for each HOUSE. */
@@ -1404,7 +1343,7 @@ public final class NoseCensus {
             for (int person = 0; person < town.people; person++) {
                 int house = town.home[person];
                 scent[person] = smellOf(person, house);
-                if (!town.clean[person]) {
+                if (!town.isClean(person)) {
                     airs[house * KINDS + town.kind[person]] += scent[person];
                 }
             }
@@ -1558,7 +1497,7 @@ public final class NoseCensus {
                     town.home[one] = old;
                     break;
                 case WASHED:
-                    town.clean[one] = old != 0;
+                    town.setClean(one, old != 0);
                     break;
                 case HUNG:
                     town.coats = one;
@@ -1583,6 +1522,8 @@ public final class NoseCensus {
         int size;
         /** By how many it is KNOWN, or ALL. */
         int first = ALL;
+        /** The last YEAR of which a note tells that counts, by settle(). */
+        int lastYear = NONE;
         private final int[] years = new int[MOST_NOTES];
         private final int[] houses = new int[MOST_NOTES];
         private final int[] counts = new int[MOST_NOTES];
@@ -1621,14 +1562,17 @@ public final class NoseCensus {
             return first == ALL ? size : first;
         }
 
-        /** Finds which are STRUCK; a note strikes only ones ahead of it, so from the last one on each is settled when asked. */
+        /** Finds which are STRUCK, from the last one on: so each is settled before it strikes one ahead of it. */
         void settle() {
             int n = knownBy();
+            lastYear = NONE;
             for (int i = 0; i < n; i++) {
                 struck[i] = false;
             }
             for (int i = n - 1; i >= 0; i--) {
-                if (!struck[i] && strikes[i] != NONE) {
+                if (!struck[i] && strikes[i] == NONE) {
+                    lastYear = Math.max(lastYear, years[i]);
+                } else if (!struck[i]) {
                     struck[strikes[i]] = true;
                 }
             }
@@ -1669,28 +1613,37 @@ public final class NoseCensus {
         }
 
         int bestWalk(int dog, int steps, int what) {
-            Town town = nose.town;
-            int own = town.dogHouse[dog];
+            int own = nose.town.dogHouse[dog];
+            int right = rightHouses(dog);
             int bestLeft = own;
-            int bestRight = own;
+            int bestEnd = own;
             int most = NONE;
             for (int left = 0; left <= own; left++) {
-                int right = 0;
-                for (int end = left; end < town.houses; end++) {
-                    if (Integer.bitCount(nose.smelledIn(dog, end)) == town.peopleIn(end)) {
-                        right++;
-                    }
-                    if (end >= own && right > most && stepsOf(own - left, end - own) <= steps) {
-                        most = right;
+                for (int end = own; end < nose.town.houses; end++) {
+                    int walked = (2 << end) - (1 << left);
+                    int among = Integer.bitCount(right & walked);
+                    if (among > most && stepsOf(own - left, end - own) <= steps) {
+                        most = among;
                         bestLeft = left;
-                        bestRight = end;
+                        bestEnd = end;
                     }
                 }
             }
             if (what == 2) {
                 return most;
             }
-            return what == 0 ? bestLeft : bestRight;
+            return what == 0 ? bestLeft : bestEnd;
+        }
+
+        /** HOUSES (bits) in which a DOG would COUNT what is TRUE. */
+        private int rightHouses(int dog) {
+            int bits = 0;
+            for (int house = 0; house < nose.town.houses; house++) {
+                if (Integer.bitCount(nose.smelledIn(dog, house)) == nose.town.peopleIn(house)) {
+                    bits |= 1 << house;
+                }
+            }
+            return bits;
         }
 
         /** The shorter side is walked to and fro. */
@@ -1702,7 +1655,7 @@ public final class NoseCensus {
             Town town = nose.town;
             int may = 0;
             for (int person = 0; person < town.people; person++) {
-                if (town.home[person] == house && !town.clean[person]) {
+                if (town.home[person] == house && !town.isClean(person)) {
                     may |= 1 << person;
                 }
             }
@@ -1865,7 +1818,7 @@ public final class NoseCensus {
         }
 
         private boolean isAllSo(Notebook notes) {
-            for (int year = 0; year <= Notebook.MOST_YEARS; year++) {
+            for (int year = 0; year <= notes.lastYear; year++) {
                 nose.sniff(trial);
                 for (int i = 0; i < notes.knownBy(); i++) {
                     if (notes.tellsOf(i, year) && !notes.isSo(i, Math.max(0, nose.countIn(notes.houseOf(i))))) {
@@ -1905,7 +1858,7 @@ public final class NoseCensus {
                     break;
                 case 2:
                     // Who is WASHED counts in no AIR, just as one who isn't there.
-                    trial.clean[person] = true;
+                    trial.setClean(person, true);
                     break;
                 case 3:
                     for (int house = 0; house < trial.houses; house++) {
@@ -1916,7 +1869,7 @@ public final class NoseCensus {
                     trial.coats = 0;
                     break;
                 case 5:
-                    trial.dirtyAll();
+                    trial.clean = 0;
                     break;
                 default:
                     break;
