@@ -45,7 +45,9 @@ public final class NoseCensus {
     private static final int UNLIKE = 14;
     private static final int AT_LEAST = 15;
     private static final int MORE = 16;
-    // From here on the tokens stand in the order of Tokens.LANGUAGE.
+    // From here on the tokens stand in the order of these words.
+    private static final String LANGUAGE =
+            "force kind heads dish air place year smell nose due or and not house person coat dog wind tax seed law ";
     private static final int FORCE = 20;
     private static final int DISH = 23;
     private static final int YEAR = 26;
@@ -844,8 +846,6 @@ public final class NoseCensus {
 
     /** The TAPE's bytes as tokens, one at a time. */
     private static final class Tokens {
-        private static final String LANGUAGE =
-                "force kind heads dish air place year smell nose due or and not house person coat dog wind tax seed law ";
         private static final int WORDS = LAW - FORCE + 1;
         private static final int LETTERS = 6;
         private static final int BITS = 5;
