@@ -79,16 +79,20 @@ public final class NoseCensus {
     private final Questions questions;
 
     public NoseCensus() {
-        tape = new int[TAPE];
-        reader = new Reader(tape);
-        plan = new Plan();
+        int[] bytes = new int[TAPE];
+        Plan told = new Plan();
+        Town town = new Town();
+        Nose sniffing = new Nose(told.laws, town);
+        tape = bytes;
+        reader = new Reader(bytes);
+        plan = told;
         spare = new Plan();
-        now = new Town();
+        now = town;
         image = new Town();
         past = new Past();
         notes = new Notebook();
-        nose = new Nose(plan.laws, now);
-        questions = new Questions(nose);
+        nose = sniffing;
+        questions = new Questions(sniffing);
     }
 
     public int feed(int a, int b, int c, int d, int e) {

@@ -184,6 +184,29 @@ public final class ChangeTest {
         }
         Check.same("undo of the 21st", x.undo(), -1);
         Check.same("the wind twenty ahead", x.count(7), 5);
+        for (int i = 0; i < 3; i++) {
+            x.blow(60 + i);
+            x.cook(i, 90 + i);
+            x.move(i, 2);
+            x.wash(i, true);
+            x.send(i % 2, 1);
+            x.hang(0, i, 1);
+            x.cook(i, 80 + i);
+            x.blow(70 + i);
+        }
+        Check.same("only twenty of different ones", x.count(13), 20);
+        for (int left = 19; left >= 0; left--) {
+            Check.same("undo of different ones", x.undo(), left);
+        }
+        Check.same("wind four behind", x.count(7), 60);
+        Check.same("dish of the first", x.house(0, 0), 90);
+        Check.same("dish of the second", x.house(1, 0), 0);
+        Check.same("house of the first", x.person(0, 0), 2);
+        Check.same("house of the second", x.person(1, 0), 0);
+        Check.same("whether washed", x.count(10), x.person(0, 3));
+        Check.same("coats told", x.count(2), 1);
+        Check.same("the first dog", x.dog(0, 0), 0);
+        Check.same("the second dog", x.dog(1, 0), 2);
     }
 
     private static void undoAndYears() {

@@ -89,7 +89,15 @@ public final class LawTest {
         worth("(" + MILLION_TIMES_MILLION + ")*(0-" + MILLION_TIMES_MILLION + ")", ERROR);
         worth("(" + MILLION_TIMES_MILLION + ")*0", 0);
         worth("0*(" + MILLION_TIMES_MILLION + ")", 0);
-        worth("(" + MILLION_TIMES_MILLION + ")/" + "1", 1000000000000L);
+        worth("(" + MILLION_TIMES_MILLION + ")/1", 1000000000000L);
+        worth("1+(" + MILLION_TIMES_MILLION + "-1)", 1000000000000L);
+        worth("1000+" + MILLION_TIMES_MILLION + "-1", ERROR);
+        worth("(0-1)+(1-" + MILLION_TIMES_MILLION + ")", -1000000000000L);
+        worth("(0-2)+(1-" + MILLION_TIMES_MILLION + ")", ERROR);
+        worth("1-(1-" + MILLION_TIMES_MILLION + ")", 1000000000000L);
+        worth("2-(1-" + MILLION_TIMES_MILLION + ")", ERROR);
+        worth("1-" + MILLION_TIMES_MILLION + "+1", 2 - 1000000000000L);
+        worth("1" + "+1".repeat(30) + "=31", 1);
     }
 
     private static NoseCensus town(String law) {
@@ -184,5 +192,11 @@ public final class LawTest {
         Check.same("air just above the dish", x.smells(0, 1), 8);
         x = town("law nose 0;");
         Check.same("a nose of 0", x.smells(0, 1), 0);
+        // All 64 knots in three laws, the last of them at the very end of their row.
+        x = town("law due heads*500" + "+1".repeat(26) + ";law smell 1+2*3;law nose not air<5;");
+        Check.same("64 knots", x.count(5), 64);
+        Check.same("smell of 64 knots", x.law(0, 0, 0), 7);
+        Check.same("nose of 64 knots", x.law(1, 0, 3), 1);
+        Check.same("due of 64 knots", x.law(2, 1, 0), 526);
     }
 }

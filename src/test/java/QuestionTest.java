@@ -1,6 +1,7 @@
 /** Promises 20 to 31, 36 and 37: what is asked of the town as it is. */
 public final class QuestionTest {
     public static void main(String[] args) {
+        asFirstCall();
         walk();
         walkOfMany();
         washed();
@@ -16,10 +17,41 @@ public final class QuestionTest {
         restsByLaw();
         seats();
         chance();
+        chanceAsItGoes();
         chanceOfWind();
         tried();
         nothingChanges();
         Check.end();
+    }
+
+    /** Each question asked of a town that no other call has looked at, and of one just changed. */
+    private static void asFirstCall() {
+        Check.same("walk first", Check.town(Check.ROW).walk(1, 1, 0), 1);
+        Check.same("washed first", Check.town(Check.ROW).washed(0, 0, 1), 1);
+        Check.same("who first", Check.town(Check.ROW).who(0, 0), 3);
+        Check.same("set first", Check.town(Check.ROW).set(0, 0, 1), 6);
+        Check.same("share first", Check.town(Check.ROW).share(1, 0, 1), 3);
+        Check.same("ghosts first", Check.town(Check.ROW).ghosts(), 4);
+        Check.same("wrong first", Check.town(Check.ROW).wrong(), 4);
+        Check.same("hide first", Check.town(Check.ROW).hide(0, 0), 5);
+        Check.same("keeps first", Check.town(Check.ROW).keeps(0), 4);
+        Check.same("rests first", Check.town(Check.ROW).rests(0, 2), 1);
+        Check.same("rest first", Check.town(Check.ROW).rest(0, 2, 0), 50);
+        Check.same("seats first", Check.town(Check.ROW).seats(3, 2), 1);
+        Check.same("chance first", Check.town(Check.ROW).chance(1, 1, 9), 10);
+        Check.same("tried first", Check.town(Check.ROW).tried(0, 0), 3);
+        Check.same("smells first", Check.town(Check.ROW).smells(0, 0), 3);
+        Check.same("air first", Check.town(Check.ROW).air(1, 0), 6);
+        Check.same("count first", Check.town(Check.ROW).count(8), 3);
+        Check.same("house first", Check.town(Check.ROW).house(2, 2), 1);
+        NoseCensus x = Check.town(Check.ROW);
+        x.chance(1, 30, 0);
+        Check.same("wrong behind a trial", x.wrong(), 4);
+        x.chance(1, 30, 0);
+        Check.same("seats behind a trial", x.seats(3, 2), 1);
+        x.chance(1, 30, 0);
+        x.wash(0, true);
+        Check.same("set behind a trial and a change", x.set(0, 0, 0), 2);
     }
 
     private static void walk() {
@@ -49,6 +81,9 @@ public final class QuestionTest {
                 Check.same("walk(0, " + steps + ", " + what + ") of seven", x.walk(0, steps, what), due[steps][what]);
             }
         }
+        x.wash(0, true);
+        Check.same("with the first one wrong", x.walk(0, 12, 2), 3);
+        x.wash(0, false);
         x.send(0, 5);
         Check.same("from the right: left", x.walk(0, 4, 0), 1);
         Check.same("from the right: right", x.walk(0, 4, 1), 5);
@@ -74,6 +109,15 @@ public final class QuestionTest {
         Check.same("washed(0, -1, 0)", x.washed(0, -1, 0), -1);
         x.hang(0, 2, 9);
         Check.same("a coat can't be washed", x.washed(0, 0, 0), -2);
+        StringBuilder nine = new StringBuilder("house a;dog d a 1;");
+        for (char name = 'a'; name <= 'i'; name++) {
+            nine.append("person ").append(name).append(" a ").append((name - 'a') % 8).append(" 1;");
+        }
+        x = Check.town(nine.toString());
+        Check.same("all nine", x.washed(0, 0, 0), 511);
+        Check.same("none of eight kinds", x.washed(0, 0, 8), 0);
+        Check.same("one of eight kinds", x.washed(0, 0, 7), 2);
+        Check.same("all but one of them", x.washed(0, 0, 1), 254);
     }
 
     private static void who() {
@@ -124,6 +168,11 @@ public final class QuestionTest {
             Check.same("share above", x.share(house, 0, 0), due[house][0]);
             Check.same("share below", x.share(house, 0, 1), due[house][1]);
         }
+        Check.same("of a coat: below", x.share(2, 1, 1), 1);
+        x.hang(2, 1, 3);
+        Check.same("of coats: above", x.share(2, 1, 0), 1);
+        Check.same("of coats: below", x.share(2, 1, 1), 4);
+        x.undo();
         Check.same("nothing brought: above", x.share(1, 1, 0), 0);
         Check.same("nothing brought: below", x.share(1, 1, 1), 1);
         Check.same("without air: above", x.share(1, 7, 0), 0);
@@ -152,6 +201,11 @@ public final class QuestionTest {
         Check.same("and right", x.wrong(), 1);
         x.send(2, 2);
         Check.same("one there now", x.ghosts(), 4);
+        x.hang(0, 7, 1);
+        x.move(0, 1);
+        Check.same("the first one too", x.ghosts(), 5);
+        x.undo();
+        x.undo();
         x.move(0, 2);
         Check.same("a house of one is none", x.ghosts(), 0);
         Check.same("counted by a coat, yet right", x.wrong(), 0);
@@ -288,7 +342,12 @@ public final class QuestionTest {
         Check.same("seats(0, 0)", x.seats(0, 0), -1);
         Check.same("seats(1, 3)", x.seats(1, 3), -1);
         Check.same("seats(1, -1)", x.seats(1, -1), -1);
+        x.send(1, 1);
+        x.cook(0, 3);
+        Check.same("one to the second", x.seats(2, 1), 1);
         x.cook(0, 99);
+        Check.same("all to the second", x.seats(7, 1), 7);
+        x.cook(1, 99);
         x.cook(2, 99);
         Check.same("by counts of 0 the first", x.seats(7, 0), 7);
         Check.same("none to another", x.seats(7, 2), 0);
@@ -311,6 +370,19 @@ public final class QuestionTest {
         Check.same("the year stays", x.count(6), 99);
         Check.same("the wind stays", x.count(7), 50);
         Check.same("the paid stays", x.house(0, 4), 594);
+    }
+
+    private static void chanceAsItGoes() {
+        NoseCensus x = Check.town("house a;person p a 0 5;coat a 1 2;dog d a 1;law due 100*heads+year;");
+        x.wash(0, true);
+        // 100 of the coat, then 201 of both, then 102 and so on of p alone.
+        Check.same("one year", x.chance(3, 1, 100), 10);
+        Check.same("no more in one year", x.chance(3, 1, 101), 0);
+        Check.same("three years", x.chance(3, 3, 403), 10);
+        Check.same("no more in three years", x.chance(3, 3, 404), 0);
+        x.years(1);
+        Check.same("what was paid doesn't count", x.chance(3, 2, 303), 10);
+        Check.same("no more behind a year", x.chance(3, 2, 304), 0);
     }
 
     /** The winds of the numbers from a seed on, as the document tells them. */
@@ -367,6 +439,12 @@ public final class QuestionTest {
             Check.same("tried(" + what + ", 1)", x.tried(what, 1), -1);
             Check.same("tried(" + what + ", -1)", x.tried(what, -1), -1);
         }
+        x = Check.town("house a;house b;person p a 0 9;person q a 0 9;coat a 1 1;dish a 1;dog d b 1;dog e a 1;"
+                + "law smell 99;");
+        x.blow(1);
+        Check.same("a breath of wind", x.tried(0, 0), 2);
+        Check.same("not even that", x.tried(1, 0), 1);
+        Check.same("the least air above no dish", x.tried(3, 0), 3);
         Check.same("tried(0, 0) of none", new NoseCensus().tried(0, 0), 0);
         Check.same("tried(2, 0) of none", new NoseCensus().tried(2, 0), -1);
     }

@@ -7,6 +7,8 @@ public final class TextTest {
         textSetsAllAnew();
         textWithFault();
         textOfTooMany();
+        textOfAPart();
+        textForgetsTheOneAhead();
         fault();
         named();
         Check.end();
@@ -102,6 +104,40 @@ public final class TextTest {
         Check.same("text(greatest)", x.text(Integer.MAX_VALUE), -2);
         Check.same("the tape stays", x.text(n), 1);
         Check.same("its wind", x.count(7), 5);
+    }
+
+    /** What the tape has behind the n bytes isn't looked at. */
+    private static void textOfAPart() {
+        String[] texts = {"wind 50;", "house abc;", "law due 1<=2;", "law due 1<>2;"};
+        int[] parts = {6, 8, 10, 10};
+        for (int i = 0; i < texts.length; i++) {
+            NoseCensus x = new NoseCensus();
+            Check.fed(x, texts[i]);
+            Check.same("a part of " + texts[i], x.text(parts[i]), NoseCensus.NONE);
+            Check.same("fault of a part of " + texts[i], x.fault(0), 1);
+            Check.same("place in a part of " + texts[i], x.fault(1), parts[i]);
+        }
+        NoseCensus x = new NoseCensus();
+        Check.fed(x, "wind 5;0");
+        Check.same("up to the sign", x.text(7), 1);
+    }
+
+    private static void textForgetsTheOneAhead() {
+        NoseCensus x = new NoseCensus();
+        String full = "house a;person p a 1 3;coat a 2 5;dish a 2;dog d a 1;wind 9;tax 9;seed 9;"
+                + "law smell 7;law nose kind=1;law due 77;";
+        String bare = "house a;person p a 1 3;coat a 2 5;dog d a 1;";
+        for (int i = 0; i < 3; i++) {
+            Check.same("the full text", Check.told(x, full), 11);
+            Check.same("due by its law", x.house(0, 3), 77);
+            Check.same("the bare text", Check.told(x, bare), 4);
+            Check.same("knots of no laws", x.count(5), 0);
+            Check.same("no law of smell", x.person(0, 4), 3);
+            Check.same("no law of nose", x.smells(0, 0), 6);
+            Check.same("no law of due", x.house(0, 3), 4);
+            Check.same("no dish", x.house(0, 0), 0);
+            Check.same("no wind", x.count(7), 0);
+        }
     }
 
     private static void fault() {
