@@ -931,7 +931,7 @@ public final class NoseCensus {
             token = NUMBER;
             number = 0;
             while (at < length && bytes[at] >= '0' && bytes[at] <= '9') {
-                number = Math.min(number * 10 + bytes[at] - '0', TOO_GREAT);
+                number = number > TOO_GREAT ? number : number * 10 + bytes[at] - '0';
                 at++;
             }
         }

@@ -49,6 +49,7 @@ public final class NotesTest {
         Check.same("notes", x.count(11), 24);
         Check.yes("known(24)", x.known(24));
         Check.no("known(25)", x.known(25));
+        Check.same("sort by 24 notes", x.sort(0), 255);
     }
 
     private static void known() {
