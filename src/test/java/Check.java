@@ -59,6 +59,23 @@ final class Check {
         return x;
     }
 
+    /** A new town of a text that has a fault. */
+    static void faulty(String text, int fault, int place) {
+        NoseCensus x = new NoseCensus();
+        String call = "text of " + text.replace("\n", "\\n");
+        same(call, told(x, text), NoseCensus.NONE);
+        same(call + ": fault(0)", x.fault(0), fault);
+        same(call + ": fault(1)", x.fault(1), place);
+    }
+
+    /** A new town of a text that has none. */
+    static NoseCensus fine(String text) {
+        NoseCensus x = town(text);
+        same("fault(0) of " + text, x.fault(0), 0);
+        same("fault(1) of " + text, x.fault(1), NoseCensus.NONE);
+        return x;
+    }
+
     static int letters(String name) {
         int bits = 0;
         for (int i = 0; i < 6; i++) {

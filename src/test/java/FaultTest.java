@@ -20,17 +20,11 @@ public final class FaultTest {
     }
 
     private static void faulty(String text, int fault, int place) {
-        NoseCensus x = new NoseCensus();
-        String call = "text of " + text.replace("\n", "\\n");
-        Check.same(call, Check.told(x, text), NoseCensus.NONE);
-        Check.same(call + ": fault(0)", x.fault(0), fault);
-        Check.same(call + ": fault(1)", x.fault(1), place);
+        Check.faulty(text, fault, place);
     }
 
     private static void fine(String text) {
-        NoseCensus x = Check.town(text);
-        Check.same("fault(0) of " + text, x.fault(0), 0);
-        Check.same("fault(1) of " + text, x.fault(1), NoseCensus.NONE);
+        Check.fine(text);
     }
 
     private static void tokens() {

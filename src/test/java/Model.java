@@ -3,6 +3,7 @@ import java.util.HashMap;
 import java.util.HashSet;
 import java.util.List;
 import java.util.Map;
+import java.util.NoSuchElementException;
 import java.util.Set;
 
 /**
@@ -552,6 +553,12 @@ final class Model {
     }
 
     int person(int person, int what) {
+        if (!isPerson(person)) {
+            throw new IndexOutOfBoundsException();
+        }
+        if (!isIn(what, 0, 4)) {
+            throw new NoSuchElementException();
+        }
         Person p = now.people.get(person);
         return new int[] {p.house, p.kind, p.force, p.washed ? 1 : 0, now.smell(p)}[what];
     }
