@@ -223,7 +223,7 @@ public final class ChangeEdgesTest {
     /** "PEOPLE moved, WASHED, COATS, DISHES, DOGS, the WIND by call can be undone, the latest first". */
     private static void undoneTheLatestFirst() {
         NoseCensus x = Probe.busyWithoutTape();
-        // What is undone, in the order of busy() from its end on: the wind, a dog, a dish, a coat, washed, moved, washed.
+        // What busy() did, from its end on: the wind, a dog, a dish, a coat, washed, moved, washed.
         int[][] seen = {{70, 1, 7, 2, 1, 1, 1}, {50, 1, 7, 2, 1, 1, 1}, {50, 2, 7, 2, 1, 1, 1}, {50, 2, 2, 2, 1, 1, 1},
             {50, 2, 2, 1, 1, 1, 1}, {50, 2, 2, 1, 0, 1, 1}, {50, 2, 2, 1, 0, 0, 1}, {50, 2, 2, 1, 0, 0, 0}};
         for (int i = 0; i < seen.length; i++) {
@@ -395,7 +395,7 @@ public final class ChangeEdgesTest {
         Check.same("nothing to undo then", x.undo(), NONE);
     }
 
-    /** Promise 40: "All (but NOTES) is as in the IMAGE (nothing to undo then): which YEAR it is; NONE: there is none." */
+    /** Promise 40: "All (but NOTES) is as in the IMAGE (nothing to undo then) ...; NONE: there is none." */
     private static void backAsInTheImage() {
         NoseCensus x = Probe.busyWithoutTape();
         Check.same("keep", x.keep(), 2);

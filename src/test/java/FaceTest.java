@@ -29,6 +29,7 @@ public final class FaceTest {
         nothingElse();
         classesInside();
         source();
+        methods();
         Check.end();
     }
 
@@ -103,5 +104,20 @@ public final class FaceTest {
             Check.yes("a long line: " + line, line.length() <= 120);
         }
         Check.yes("signs beyond 127", text.chars().allMatch(sign -> sign < 128));
+    }
+
+    /** A method stands four or eight blanks in, and its last line begins just as far in. */
+    private static void methods() throws IOException {
+        List<String> lines = Files.readAllLines(Path.of(SOURCE));
+        int found = 0;
+        for (int i = 0; i < lines.size(); i++) {
+            if (lines.get(i).matches("( {4}| {8})(public|private|static|final|[a-zA-Z]).*\\) (throws .*)?\\{")) {
+                String end = lines.get(i).replaceAll("\\S.*", "}");
+                int length = lines.subList(i, lines.size()).indexOf(end) + 1;
+                Check.yes("at most sixty lines: " + lines.get(i).trim(), length > 1 && length <= 60);
+                found++;
+            }
+        }
+        Check.yes("methods found: " + found, found > 100);
     }
 }

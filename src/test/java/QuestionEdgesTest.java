@@ -194,7 +194,8 @@ public final class QuestionEdgesTest {
 
     /** "(the others of no matter where)"; "if they alone were in the HOUSE, unWASHED, without COATS there and WIND". */
     private static void whoAlone() {
-        NoseCensus x = town("house a;house b;person p a 0 4;person q b 0 3;person r b 1 9;coat b 0 1;wind 100;dog d b 4;");
+        NoseCensus x = town("house a;house b;person p a 0 4;person q b 0 3;person r b 1 9;coat b 0 1;"
+                + "wind 100;dog d b 4;");
         // In b 4 + 3 + 1 of KIND 0 and 9 of KIND 1 are smelled; p alone is 4, q alone 3, both are 7.
         Check.same("sets", x.who(1, 0), 2);
         Check.same("p and r", x.set(1, 0, 0), 5);
@@ -218,7 +219,8 @@ public final class QuestionEdgesTest {
 
     /** "SHARE in least terms ... (0 by 1 without AIR)". */
     private static void shareInLeastTerms() {
-        NoseCensus x = town("house a;house b;house c;person p a 0 8;person q b 0 4;person r b 7 9;coat c 7 3;wind 100;");
+        NoseCensus x = town("house a;house b;house c;person p a 0 8;person q b 0 4;person r b 7 9;"
+                + "coat c 7 3;wind 100;");
         share(x, 0, 0, 0, 1);
         share(x, 1, 0, 2, 3);
         share(x, 2, 0, 1, 1);
@@ -238,7 +240,7 @@ public final class QuestionEdgesTest {
         share(x, 0, 0, 0, 1);
     }
 
-    /** "GHOSTS: HOUSES (bits) without PEOPLE with a COUNT above 0. WRONG: HOUSES (bits) with a COUNT that isn't TRUE." */
+    /** "GHOSTS: HOUSES (bits) without PEOPLE with a COUNT above 0. WRONG: ... with a COUNT that isn't TRUE." */
     private static void ghostsAndWrong() {
         NoseCensus x = town(SEVEN + "person p d 0 9;coat a 1 9;coat d 1 9;coat g 1 1;dog d a 1;dog e d 1;dog f g 1;");
         Check.same("ghosts in the first and the last", x.ghosts(), 65);
@@ -494,8 +496,8 @@ public final class QuestionEdgesTest {
 
     /** "TRIED: all COUNTS in sum now (NONE as 0)"; "(i 0 of all but 2)". */
     private static void triedOtherwise() {
-        NoseCensus x = town("house a;house b;house c;person p a 0 8;person q b 1 8;coat b 2 8;dish b 5;dog d b 5;dog e a 9;"
-                + "wind 50;");
+        NoseCensus x = town("house a;house b;house c;person p a 0 8;person q b 1 8;coat b 2 8;dish b 5;"
+                + "dog d b 5;dog e a 9;wind 50;");
         x.wash(1, true);
         // In b: 4 of KIND 0 by the wind, 8 of KIND 2; e counts 0 in a, c has no count.
         int[] due = {1, 1, 1, 1, 0, 2};

@@ -53,7 +53,8 @@ public final class RefusedTest {
     /** "NONE with a FAULT, all stays": all but the tape, which is empty then. */
     private static void textWithFault() {
         String[] texts = {"#", "house a;wind 101;", "house inn;house inn;", "person p q 0 1;", "house a;house b;dog",
-            "house h;person q h 7 9;coat h 1 1;dish h 9;dog d h 1;wind 1;tax 1;seed 1;law smell 1;law due 2;law nose ;"};
+            "house h;person q h 7 9;coat h 1 1;dish h 9;dog d h 1;wind 1;tax 1;seed 1;"
+                    + "law smell 1;law due 2;law nose ;"};
         int[] faults = {1, 2, 3, 4, 1, 1};
         int[] places = {0, 13, 16, 9, 19, 104};
         for (int i = 0; i < texts.length; i++) {

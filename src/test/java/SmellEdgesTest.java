@@ -217,7 +217,8 @@ public final class SmellEdgesTest {
 
     /** "The COUNT of a HOUSE: the most any DOG that is there COUNTS; NONE, if there is none." */
     private static void theMostAnyDogCounts() {
-        NoseCensus x = town("house a;house b;person p a 0 3;person q a 1 5;person r a 2 7;dog d a 9;dog e a 4;dog f b 1;");
+        NoseCensus x = town("house a;house b;person p a 0 3;person q a 1 5;person r a 2 7;dog d a 9;"
+                + "dog e a 4;dog f b 1;");
         Check.same("by the first two", x.house(0, 2), 2);
         Check.same("of none smelled", x.house(1, 2), 0);
         x.send(1, 1);
@@ -287,7 +288,8 @@ public final class SmellEdgesTest {
 
     /** "(1) the evening: each HOUSE with a COUNT pays". */
     private static void eveningOfAllWithACount() {
-        NoseCensus x = town("house a;house b;house c;person p a 0 9;person q c 0 9;dog d a 1;dog e b 1;law due 5+heads;");
+        NoseCensus x = town("house a;house b;house c;person p a 0 9;person q c 0 9;dog d a 1;dog e b 1;"
+                + "law due 5+heads;");
         x.years(1);
         Check.same("a count of 1", x.house(0, 4), 6);
         Check.same("a count of 0 pays too", x.house(1, 4), 5);
@@ -426,8 +428,8 @@ public final class SmellEdgesTest {
                 worth(one + " or " + other, one.equals("0") && other.equals("0") ? 0 : 1);
             }
         }
-        for (String error : new String[] {"0 and 1/0", "1/0 and 0", "1 or 1/0", "1/0 or 1", "not 1/0", "1/0=1/0", "1/0<1",
-            "0*(1/0)", "0 and (" + BILLIONS + "+1)", "1 or (" + BILLIONS + "+1)"}) {
+        for (String error : new String[] {"0 and 1/0", "1/0 and 0", "1 or 1/0", "1/0 or 1", "not 1/0", "1/0=1/0",
+            "1/0<1", "0*(1/0)", "0 and (" + BILLIONS + "+1)", "1 or (" + BILLIONS + "+1)"}) {
             worth(error, ERROR);
         }
     }
@@ -564,7 +566,7 @@ public final class SmellEdgesTest {
         Check.same("one that is none any more: kind", x.coat(1, 1), 0);
     }
 
-    /** Promise 12: "smell of a PERSON where that one is", "nose of a DOG where it is", "due of a HOUSE with a COUNT". */
+    /** Promise 12: "smell of a PERSON where that one is", "a DOG where it is", "due of a HOUSE with a COUNT". */
     private static void law() {
         NoseCensus x = town("house a;house b;person p a 2 4;dog d a 3;law smell force+10*place;law nose air+100*place;"
                 + "law due 5-heads/place;");

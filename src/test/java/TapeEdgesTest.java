@@ -208,7 +208,8 @@ public final class TapeEdgesTest {
 
     /** "by its letters, 5 bits each (a is 1; the first one highest of six, 0 behind the last one)". */
     private static void namedByLetters() {
-        NoseCensus x = Check.town("house a;house z;house zzzzzz;house az;house aaaaaa;house b;person za z 0 1;dog zz z 1;");
+        NoseCensus x = Check.town("house a;house z;house zzzzzz;house az;house aaaaaa;house b;"
+                + "person za z 0 1;dog zz z 1;");
         int[] houses = {1 << 25, 26 << 25, 26 << 25 | 26 << 20 | 26 << 15 | 26 << 10 | 26 << 5 | 26, 1 << 25 | 26 << 20,
             1 << 25 | 1 << 20 | 1 << 15 | 1 << 10 | 1 << 5 | 1, 2 << 25};
         for (int house = 0; house < houses.length; house++) {

@@ -1,9 +1,6 @@
 import java.math.BigInteger;
 
-/**
- * The sentences of "Terms" up to ==== 2 that name an edge, each with a test of its own that
- * begins with the sentence's words.
- */
+/** The sentences of "Terms" up to ==== 2 that name an edge, each with a test of its own. */
 public final class TextEdgesTest {
     private static final int NONE = NoseCensus.NONE;
     private static final String[] LANGUAGE = {"house", "person", "coat", "dish", "dog", "wind", "tax", "seed", "law",
@@ -264,7 +261,8 @@ public final class TextEdgesTest {
 
     /** "All numbered as they come; HOUSES, PEOPLE, DOGS have names of their kind." */
     private static void namesOfTheirKind() {
-        NoseCensus x = fine("house b;house a;person a a 0 1;person c b 1 2;person b a 2 3;dog c a 1;dog b b 2;dog a b 3;");
+        NoseCensus x = fine("house b;house a;person a a 0 1;person c b 1 2;person b a 2 3;dog c a 1;"
+                + "dog b b 2;dog a b 3;");
         String[] names = {"a", "b", "c"};
         int[][] due = {{1, 0, NONE}, {0, 2, 1}, {2, 1, 0}};
         for (int what = 0; what < 3; what++) {
@@ -309,8 +307,9 @@ public final class TextEdgesTest {
 
     /** "1 a TOKEN that ... can't stand there": each token of each line in place of each other one. */
     private static void tokensThatCantStandThere() {
-        String[] tokens = {"a", "zz", "5", "99999999999", "house", "dish", "law", "smell", "due", "force", "year", "not",
-            "and", "or", ";", "(", ")", "+", "-", "*", "/", "<", "<=", "<>", "=", ">", ">=", "#", "A", "longname"};
+        String[] tokens = {"a", "zz", "5", "99999999999", "house", "dish", "law", "smell", "due", "force", "year",
+            "not", "and", "or", ";", "(", ")", "+", "-", "*", "/", "<", "<=", "<>", "=", ">", ">=", "#", "A",
+            "longname"};
         for (int i = 0; i < FORMS.length; i++) {
             String[] own = LINES[i].split(" ");
             StringBuilder ahead = new StringBuilder(AHEAD);
@@ -435,7 +434,8 @@ public final class TextEdgesTest {
             fine(law + "(".repeat(7) + "(1)+(2)" + ")".repeat(7) + "*((3));");
             faulty(law + "(".repeat(7) + "(1)+((2))" + ")".repeat(7) + ";", 2, law.length() + 12);
         }
-        fine("law smell " + "(".repeat(8) + "1" + ")".repeat(8) + ";law nose " + "(".repeat(8) + "1" + ")".repeat(8) + ";");
+        String eight = "(".repeat(8) + "1" + ")".repeat(8) + ";";
+        fine("law smell " + eight + "law nose " + eight + "law due " + eight);
     }
 
     /** "KNOT of all E (N, NAMES, signs, not, and, or: one each)". */
@@ -485,7 +485,7 @@ public final class TextEdgesTest {
         faulty(two + "law due (1);", 2, two.length() + 9);
     }
 
-    /** "3 told already: a name of its kind (at W), a dish ... (at W), wind, tax, seed (at the word), a law (at RULE)." */
+    /** "3 told already: a name (at W), a dish (at W), wind, tax, seed (at the word), a law of its RULE (at RULE)." */
     private static void toldAlready() {
         faulty("house a;house b;house a;", 3, 22);
         faulty("house abcdef;house abcdef;", 3, 19);
