@@ -2,10 +2,6 @@
 public final class QuestionEdgesTest {
     private static final int NONE = NoseCensus.NONE;
     private static final String SEVEN = "house a;house b;house c;house d;house e;house f;house g;";
-    /** Nine people of one house, of KINDS 0 to 7 and 0 again, FORCE 1. */
-    private static final String NINE = "person a a 0 1;person b a 1 1;person c a 2 1;person d a 3 1;person e a 4 1;"
-            + "person f a 5 1;person g a 6 1;person h a 7 1;person i a 0 1;";
-
     public static void main(String[] args) {
         walkToAndFro();
         walkFromTheEnds();
@@ -32,11 +28,23 @@ public final class QuestionEdgesTest {
         chanceOfYears();
         chanceOfTheMost();
         triedOtherwise();
+        fullTown();
+        fullTownAsItGoes();
         Check.end();
     }
 
     private static NoseCensus town(String text) {
         return Check.town(text);
+    }
+
+    /** Nine people of one house, of KINDS 0 to 7 and 0 again, FORCE 1. */
+    private static String nine(String house) {
+        StringBuilder text = new StringBuilder();
+        for (int i = 0; i < 9; i++) {
+            text.append("person p").append((char) ('a' + i)).append(' ').append(house).append(' ').append(i % 8)
+                    .append(" 1;");
+        }
+        return text.toString();
     }
 
     private static void walk(NoseCensus x, String when, int steps, int left, int right, int most) {
@@ -115,7 +123,7 @@ public final class QuestionEdgesTest {
 
     /** "the fewest PEOPLE ... (bits, of several the least)". */
     private static void washTheFewest() {
-        NoseCensus x = town("house a;dog d a 1;" + NINE);
+        NoseCensus x = town("house a;dog d a 1;" + nine("a"));
         // Of KIND 0 there are two, so others are fewer.
         int[] due = {511, 254, 126, 62, 30, 14, 6, 2, 0};
         for (int n = 0; n <= 8; n++) {
@@ -164,7 +172,7 @@ public final class QuestionEdgesTest {
 
     /** "how many sets, the k-th of them"; "-2: there are no so many; NONE: no such ones, k is below 0". */
     private static void whoOfSets() {
-        NoseCensus x = town("house a;dog d a 9;" + NINE);
+        NoseCensus x = town("house a;dog d a 9;" + nine("a"));
         Check.same("all sets", x.who(0, 0), 512);
         for (int k : new int[] {0, 1, 255, 510, 511}) {
             Check.same("set(0, 0, " + k + ")", x.set(0, 0, k), k);
@@ -173,7 +181,7 @@ public final class QuestionEdgesTest {
         Check.same("set of the greatest k", x.set(0, 0, Integer.MAX_VALUE), -2);
         Check.same("set(0, 0, -1)", x.set(0, 0, -1), NONE);
         Check.same("set of the least k", x.set(0, 0, Integer.MIN_VALUE), NONE);
-        x = town("house a;dog d a 1;" + NINE);
+        x = town("house a;dog d a 1;" + nine("a"));
         // All eight kinds: the first or the last person of KIND 0, or both.
         Check.same("sets of all kinds", x.who(0, 0), 3);
         int[] sets = {255, 510, 511, -2};
@@ -492,6 +500,76 @@ public final class QuestionEdgesTest {
         x.years(99);
         Check.same("more than now", x.chance(5, 2, 12), 10);
         Check.same("no more than now", x.chance(5, 2, 13), 0);
+    }
+
+    /** Seven houses, nine people, twelve coats and three dogs, all of them in the last house. */
+    private static NoseCensus full() {
+        NoseCensus x = town(SEVEN + nine("g") + "coat g 7 9;".repeat(8) + "dog d g 1;dog e g 1;dog f g 1;");
+        for (int coat = 8; coat < 12; coat++) {
+            Check.same("full: hang", x.hang(6, 7, 9), coat);
+        }
+        return x;
+    }
+
+    /** What is asked of the last ones of each in a town that has all there may be. */
+    private static void fullTown() {
+        NoseCensus x = full();
+        Check.same("full: air(6, 0)", x.air(6, 0), 2);
+        Check.same("full: air(6, 7)", x.air(6, 7), 1 + 12 * 9);
+        Check.same("full: smells(2, 6)", x.smells(2, 6), 255);
+        Check.same("full: house(6, 1)", x.house(6, 1), 9);
+        Check.same("full: house(6, 3)", x.house(6, 3), 16);
+        Check.same("full: count(8)", x.count(8), 8);
+        Check.same("full: wrong", x.wrong(), 64);
+        Check.same("full: ghosts", x.ghosts(), 0);
+        Check.same("full: walk(2, 12, 0)", x.walk(2, 12, 0), 0);
+        Check.same("full: walk(2, 12, 1)", x.walk(2, 12, 1), 6);
+        Check.same("full: walk(2, 12, 2)", x.walk(2, 12, 2), 6);
+        Check.same("full: washed(6, 2, 1)", x.washed(6, 2, 1), 511 - 128);
+        Check.same("full: washed(6, 2, 0)", x.washed(6, 2, 0), -2);
+        Check.same("full: who(6, 2)", x.who(6, 2), 3);
+        Check.same("full: set(6, 2, 2)", x.set(6, 2, 2), 511);
+        Check.same("full: share(6, 7, 0)", x.share(6, 7, 0), 0);
+        Check.same("full: hide(6, 2)", x.hide(6, 2), -2);
+        Check.same("full: keeps(11)", x.keeps(11), -2);
+        Check.same("full: seats(99, 6)", x.seats(99, 6), 99);
+        for (int what = 0; what <= 5; what++) {
+            Check.same("full: tried(" + what + ", 0)", x.tried(what, 0), 8);
+        }
+        Check.same("full: tried(2, 7)", x.tried(2, 7), 8);
+        Check.same("full: tried(2, 6)", x.tried(2, 6), 7);
+        Check.same("full: tried(2, 8)", x.tried(2, 8), 8);
+        x.send(0, 5);
+        // Of a dish of 2 only KIND 7 is left: 2 a head and 2.
+        Check.same("full: rests(5, 6)", x.rests(5, 6), 1);
+        Check.same("full: rest(5, 6, 0)", x.rest(5, 6, 0), 2);
+        Check.same("full: rest(6, 5, 0)", x.rest(6, 5, 0), 20);
+    }
+
+    private static void fullTownAsItGoes() {
+        NoseCensus x = full();
+        for (int note = 0; note < 24; note++) {
+            Check.same("full: note", x.note(8, 6, 8, true), note);
+        }
+        Check.same("full: sort(8)", x.sort(8), 255);
+        Check.same("full: sort(6)", x.sort(6), 64);
+        Check.same("full: chance", x.chance(1, 30, 480), 10);
+        Check.same("full: chance of more", x.chance(1, 30, 481), 0);
+        x.cook(6, 3);
+        x.blow(100);
+        Check.same("full: tried(3, 0) covered", x.tried(3, 0), 8);
+        Check.same("full: tried(0, 0) covered", x.tried(0, 0), 1);
+        Check.same("full: undo", x.undo(), 5);
+        Check.same("full: undo", x.undo(), 4);
+        x.keep();
+        x.years(9);
+        Check.same("full: count(9)", x.count(9), 144);
+        Check.same("full: house(6, 4)", x.house(6, 4), 144);
+        Check.same("full: coats still", x.count(3), 0);
+        Check.same("full: back", x.back(), 0);
+        Check.same("full: count(9) as in the image", x.count(9), 0);
+        Check.same("full: coat(11, 2) as in the image", x.coat(11, 2), 9);
+        Check.same("full: house(6, 4) as in the image", x.house(6, 4), 0);
     }
 
     /** "TRIED: all COUNTS in sum now (NONE as 0)"; "(i 0 of all but 2)". */

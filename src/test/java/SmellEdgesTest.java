@@ -407,6 +407,16 @@ public final class SmellEdgesTest {
         worth("not " + TWO_TO_32, 0);
         worth(TWO_TO_32 + " or 0", 1);
         worth("9999*9999*9999", 999700029999L);
+        for (int a = 0; a <= 3; a++) {
+            for (int b = 0; b <= 3; b++) {
+                worth(a + "*" + b, a * b);
+                worth("(0-" + a + ")*" + b, -a * b);
+                worth(a + "*(0-" + b + ")", -a * b);
+                worth("(0-" + a + ")*(0-" + b + ")", a * b);
+                worth(a + "-" + b, a - b);
+                worth("(0-" + a + ")+" + b, b - a);
+            }
+        }
     }
 
     /** "comparisons, and, or, not are 1 or 0 (what isn't 0 is as 1, both sides are worked out)". */
