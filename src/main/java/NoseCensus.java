@@ -81,12 +81,13 @@ public final class NoseCensus {
     public NoseCensus() {
         int[] bytes = new int[TAPE];
         Plan told = new Plan();
+        Plan untold = new Plan();
         Town town = new Town();
         Nose sniffing = new Nose(told.laws, town);
         tape = bytes;
-        reader = new Reader(bytes);
+        reader = new Reader(bytes, untold);
         plan = told;
-        spare = new Plan();
+        spare = untold;
         now = town;
         image = new Town();
         past = new Past();
@@ -697,14 +698,10 @@ public final class NoseCensus {
         }
     }
 
-    /** Names of one sort, each of six letters in thirty bits. */
+    /** Names of one sort, each of six letters in thirty bits; of no sort there are more than of people. */
     private static final class Names {
-        final int[] codes;
+        final int[] codes = new int[MOST_PEOPLE];
         int size;
-
-        Names(int most) {
-            codes = new int[most];
-        }
 
         int find(int code) {
             for (int i = 0; i < size; i++) {
@@ -716,7 +713,7 @@ public final class NoseCensus {
         }
 
         void add(int code) {
-            if (size < codes.length) {
+            if (size < MOST_PEOPLE) {
                 codes[size] = code;
                 size++;
             }
@@ -727,9 +724,9 @@ public final class NoseCensus {
     private static final class Plan {
         final Town start = new Town();
         final Laws laws = new Laws();
-        final Names houses = new Names(MOST_HOUSES);
-        final Names people = new Names(MOST_PEOPLE);
-        final Names dogs = new Names(MOST_DOGS);
+        final Names houses = new Names();
+        final Names people = new Names();
+        final Names dogs = new Names();
         final boolean[] dishTold = new boolean[MOST_HOUSES];
         /** Of wind, tax and seed. */
         final boolean[] numberTold = new boolean[SEED - WIND + 1];
@@ -998,8 +995,9 @@ public final class NoseCensus {
         private int kind;
         private int number;
 
-        Reader(int[] tape) {
+        Reader(int[] tape, Plan first) {
             tokens = new Tokens(tape);
+            plan = first;
         }
 
         boolean reads(int n, Plan into) {
