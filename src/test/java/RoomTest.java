@@ -15,6 +15,7 @@ public final class RoomTest {
     private static final int MOST_OBJECTS = 200;
     private static final int MOST_ELEMENTS = 4000;
     private static final String MAKES_ROW = "\\s*(private )?final \\S+ \\S+ = new \\w+(\\(\\)|\\[.*\\]);";
+    private static final String SET_LENGTH = ".* = new \\w+\\[[A-Z_0-9 *+-]+\\];";
     private static final String THROWS = "\\s*throw new \\w+\\(\"[a-z ]+\"\\);";
     private static final String CONSTRUCTS = " {4,8}(public )?[A-Z]\\w*\\(.*\\) \\{";
 
@@ -127,6 +128,7 @@ public final class RoomTest {
             if (line.contains("new ") && !line.matches("\\s*(/\\*\\*|//).*")) {
                 boolean isIn = !constructor.isEmpty();
                 Check.yes("made by a call: " + line.trim(), isIn || line.matches(MAKES_ROW) || line.matches(THROWS));
+                Check.yes("a row of a set length: " + line.trim(), !line.contains("[") || line.matches(SET_LENGTH));
                 found++;
             }
         }
